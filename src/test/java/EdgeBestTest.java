@@ -15,7 +15,9 @@ public final class EdgeBestTest {
         noneIsLast();
         ofSeveralTheFirst();
         cutBeforeTheTide();
+        lostAhead();
         fromHourOn();
+        askedAgain();
         worthBounds();
         worthOfBeasts();
         saltedBounds();
@@ -79,6 +81,10 @@ public final class EdgeBestTest {
     private static void noneIsLast() {
         rows("Terms 2: none last in both", "text sand 0 0;sand 0 9;tide 1 0;gangs 2;whale 0 5 1 0 5 1 0;", 3, 10, "1", "NONE", "0", "NONE",
             "NONE", "NONE");
+        rows("Terms 2: the other one is WET in HOUR 1", "text sand 0 9;sand 0 0;tide 0 1;gangs 2;whale 0 3 3 0 3 3 0;", 4, 3, "0", "1", "0", "NONE",
+            "0", "1", "NONE", "NONE");
+        rows("Terms 2: the other one, of WORTH 0, is WET in HOUR 1", "text sand 0 9;sand 0 0;tide 0 1;gangs 2;whale 0 3 3 0 0 3 0;", 4, 3, "0", "1",
+            "0", "NONE", "0", "1", "NONE", "NONE");
         rows("Terms 2: none last of one GANG", "text sand 0 9;whale 0 0 1 0;", 2, 0, "0", "NONE", "NONE", "NONE");
         rows("Terms 2: work that wins nothing is ahead of none", "text sand 0 9;sand 0 9;gangs 2;whale 0 5 1 0 0 3 0;", 2, 5, "0", "1", "1",
             "NONE");
@@ -103,6 +109,18 @@ public final class EdgeBestTest {
         rows("Terms 2: one PLACE stays dry", "text sand 0 3;sand 0 4;tide 0 4;whale 0 5 2 0 1 1 0;", 3, 6, "0", "NONE", "1", "NONE", "0", "NONE");
     }
 
+    private static void lostAhead() {
+        String[] parts = {"0", "10", "20"};
+        for (int b = 0; b < 3; b++) {
+            int[] marks = {9, 9, 9};
+            marks[b] = 4;
+            Script.run(C, "Terms 2: BEAST " + b + " alone is LOST, and dry again", "text sand 0 " + marks[0] + ";sand 0 " + marks[1] + ";sand 0 "
+                + marks[2] + ";tide 5 0;rot 9;whale 0 5 1 0;whale 1 5 1 0;whale 2 5 1 0;", "go(NONE, NONE) = 0", "beast(" + b + ", 2) = 1",
+                "count(5) = 1", "best(1, 10) = " + parts[b == 0 ? 1 : 0], "best(2, 12) = " + parts[b == 2 ? 1 : 2], "best(6, 0) = 10",
+                "worth(0, 6) = " + (b == 0 ? 0 : 5), "worth(1, 6) = " + (b == 1 ? 0 : 5), "worth(2, 6) = " + (b == 2 ? 0 : 5));
+        }
+    }
+
     private static void fromHourOn() {
         Script.run(C, "21: HOUR k of the ROW is k behind HOUR", Script.join(new String[] {
             "text sand 0 0;sand 0 9;tide 1 0;gangs 2;rot 1;whale 0 5 1 0 5 1 0;", "go(NONE, NONE) = 0", "best(1, 0) = 8"}, row(1, "0", "1")));
@@ -112,6 +130,17 @@ public final class EdgeBestTest {
         String[] late = Script.join(new String[] {"text sand 0 9;rot 9;whale 0 9 2 0;"}, Script.idle(79));
         Script.run(C, "21: the last HOUR in which it is worth anything", Script.join(late, "best(1, 0) = 0", "best(2, 0) = 1", "best(3, 0) = 1",
             "go(NONE, NONE) = 0", "best(2, 0) = 0", "best(6, 0) = 0", "best(6, 10) = 0", "best(6, 12) = 0", "best(6, 14) = NONE"));
+    }
+
+    private static void askedAgain() {
+        Script.run(C, "21: asked again behind a change", "text sand 0 9;sand 0 9;sand 0 9;tide 3;rot 9;whale 0 5 1 0 4 1 0;whale 2 3 1 0;",
+            "best(1, 0) = 5", "best(2, 0) = 9", "mark(0, 2) = 9", "best(1, 0) = 4", "best(1, 10) = 1", "best(2, 0) = 7", "mark(1, 2) = 9",
+            "beast(0, 2) = 1", "best(1, 0) = 3", "best(1, 10) = 10", "best(6, 0) = 3", "go(10, NONE) = 3", "best(6, 0) = 0", "best(1, 10) = NONE");
+        Script.run(C, "21: asked again by other GANGS, another ROT, behind IMAGES", ALL, "best(3, 0) = 18", "gangs(1) = 2", "best(3, 0) = 9",
+            "gangs(2) = 1", "best(3, 0) = 18", "rot(1) = 9", "best(3, 0) = 14", "keep(0) = 0", "go(0, 1) = 0", "go(0, 1) = 0", "best(1, 0) = 14",
+            "go(0, 1) = 14", "best(1, 0) = 0", "best(3, 0) = 8", "back(0) = 0", "best(1, 0) = 0", "best(3, 0) = 14", "rot(9) = 1", "best(3, 0) = 18");
+        Script.run(C, "22, 23: asked between", SHORE, "best(3, 0) = 23", "worth(0, 3) = 15", "best(3, 0) = 23", "salted(6) = 5", "best(3, 10) = 0",
+            "best(3, 11) = 1", "worth(1, 6) = 11", "best(3, 13) = 10", "best(6, 0) = 26");
     }
 
     private static void worthBounds() {

@@ -13,6 +13,7 @@ public final class EdgeHoursTest {
         workAndCut();
         wonInThatHour();
         lostBehindTheHour();
+        lostForGood();
         hourWrapsAround();
         theThousandth();
         wet();
@@ -81,6 +82,23 @@ public final class EdgeHoursTest {
             "go(0, NONE) = 6", "count(4) = 1", "count(5) = 1", "part(1, 1) = 1", "part(1, 4) = 0", "go(1, NONE) = STATE", "has(0) = 6");
     }
 
+    private static void lostForGood() {
+        String[] numbers = {"0", "10", "11", "20", "21", "22"};
+        String[] rows = {"text sand 0 4;sand 0 4;sand 0 4;sand 0 4;sand 0 4;sand 0 4;tide 0 5 0;gangs 2;"
+            + "whale 0 9 3 8;whale 1 9 3 8 9 3 8;whale 3 9 3 8 9 3 8 9 3 8;", "go(NONE, NONE) = 0", "wet(1) = 63", "count(5) = 3",
+            "go(NONE, NONE) = 0", "wet(2) = 0", "count(5) = 3"};
+        for (String x : numbers) {
+            rows = Script.join(rows, "part(" + x + ", 4) = 0", "go(" + x + ", NONE) = STATE", "go(NONE, " + x + ") = STATE");
+        }
+        Script.run(C, "Terms 2: what is LOST can not be WORKED, though it is dry again", Script.join(rows, "open() = NONE",
+            "best(1, 10) = NONE", "best(6, 0) = 0", "drift(0, 60, 0) = 0", "drift(0, 1, 1) = 3", "luck(0, 0) = 0", "luck(1, 0) = 0",
+            "luck(2, 0) = 0"));
+        Script.run(C, "Terms 2: one that is LOST, others that are not",
+            "text sand 0 9;sand 0 4;sand 0 4;sand 0 9;tide 0 5 0;whale 0 9 3 8;whale 1 9 3 8 9 3 8;whale 3 9 3 8;", "go(NONE, NONE) = 0",
+            "go(NONE, NONE) = 0", "beast(0, 2) = 0", "beast(1, 2) = 1", "beast(2, 2) = 0", "part(0, 4) = 1", "part(10, 4) = 0",
+            "part(11, 4) = 0", "part(20, 4) = 1", "go(11, NONE) = STATE", "go(20, NONE) = 0", "go(0, NONE) = 0");
+    }
+
     private static void hourWrapsAround() {
         Script.run(C, "Terms 1: LEVEL of HOUR 2 of 2 is that of HOUR 0", "text sand 0 9;tide 4 0;whale 0 5 3 0;", "go(0, NONE) = 0",
             "mark(0, 3) = 9", "beast(0, 2) = 0", "go(0, NONE) = 0", "rule(6) = 2", "beast(0, 2) = 1");
@@ -106,6 +124,8 @@ public final class EdgeHoursTest {
             "text sand 0 0;sand 0 1;sand 0 5;sand 0 9;sand 0 8;sand 0 2;tide 0 1 2 6 9;", "wet(MIN) = BAD", "wet(-1) = BAD", "wet(0) = 0",
             "wet(1) = 1", "wet(2) = 3", "wet(3) = 39", "wet(4) = 55", "wet(5) = 0", "wet(6) = 1", "wet(998) = 39", "wet(999) = 55",
             "wet(1000) = BAD", "wet(MAX) = BAD", "mark(3, 8) = 9", "wet(4) = 63", "wet(9) = 63");
+        Script.run(C, "8, 18: of an HOUR, whatever HOUR is", "text sand 0 3;tide 1 4 2;", "go(NONE, NONE) = 0", "level(0) = 1", "level(1) = 4",
+            "level(2) = 2", "level(3) = 1", "wet(0) = 0", "wet(1) = 1", "wet(2) = 0", "go(NONE, NONE) = 0", "level(0) = 1", "wet(1) = 1");
         Script.run(C, "18: no PLACES", "text tide 9;", "wet(0) = 0", "wet(999) = 0", "wet(1000) = BAD");
         Script.run(C, "18: one PLACE", "text sand 0 8;tide 8 9;", "wet(0) = 0", "wet(1) = 1", "wet(2) = 0");
         Script.run(C, "18: MARK 9 is never WET", "text sand 0 9;tide 9;", "wet(0) = 0");

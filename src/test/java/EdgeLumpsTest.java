@@ -40,6 +40,8 @@ public final class EdgeLumpsTest {
         Script.run(C, "29: LEVEL at MARK is not WET", "text sand 0 1;sand 0 0;tide 1 0;", "strand(1, 0) = 2", "strand(2, 0) = 0");
         Script.run(C, "29: and not in the next one", "text sand 0 0;sand 0 4;tide 5 1 0;", "strand(1, 0) = 2", "strand(2, 0) = 1",
             "strand(1, 1) = 1", "strand(2, 1) = 0", "strand(1, 2) = 0");
+        Script.run(C, "29: PLACES that stay WET", "text sand 0 4;sand 0 0;sand 0 0;sand 0 0;sand 0 4;tide 5 1;", "strand(1, 0) = 17", "strand(2, 0) = 9",
+            "strand(3, 0) = 5", "strand(1, 1) = 0", "strand(2, 1) = 0", "strand(3, 1) = 0");
         Script.run(C, "29: the next one of the last LEVEL is the first", "text sand 0 0;sand 0 2;tide 0 1 2 3;", "strand(1, 2) = 0",
             "strand(1, 3) = 3", "strand(2, 3) = 1", "strand(1, 995) = 3", "strand(1, 998) = 0");
         Script.run(C, "29: one LEVEL alone never falls", "text sand 0 0;tide 9;", "strand(1, 0) = 0", "strand(1, 998) = 0");
@@ -98,6 +100,8 @@ public final class EdgeLumpsTest {
             "luck(0, 0) = 0", "luck(0, 1) = 1");
         Script.run(C, "30: its BEAST not LOST", "text sand 0 3;tide 0 4;whale 0 1 3 8;", "luck(0, 0) = 1", "luck(0, 1) = 1",
             "go(0, NONE) = 0", "beast(0, 2) = 1", "luck(0, 0) = 0", "luck(0, 1) = 1");
+        Script.run(C, "30: one that is LOST, others that are not", "text sand 0 3;sand 0 9;sand 0 3;tide 0 4;whale 0 1 3 4;whale 1 1 3 4;whale 2 1 3 4;",
+            "go(NONE, NONE) = 0", "luck(0, 0) = 0", "luck(0, 1) = 1", "luck(1, 0) = 1", "luck(1, 1) = 2", "luck(2, 0) = 0", "luck(2, 1) = 1");
         Script.run(C, "30: WET or not", "text sand 0 3;sand 0 9;tide 0 4;whale 0 1 3 4 1 3 0;", "go(NONE, NONE) = 0", "part(0, 4) = 0",
             "luck(0, 0) = 1", "luck(0, 1) = 2");
     }
@@ -132,6 +136,12 @@ public final class EdgeLumpsTest {
         openIs("3 1", "2 1", 10);
         openIs("2 1", "3 1", 0);
         openIs("1 0", "3 1", 10);
+        String[] three = {"1 5 3", "1 3 5", "5 1 3", "3 1 5", "3 5 1", "5 3 1", "1 1 1", "1 3 3"};
+        int[] due = {1, 2, 0, 2, 1, 0, 0, 1};
+        for (int i = 0; i < three.length; i++) {
+            Script.run(C, "31: the greatest of LUMPS " + three[i], "text sand 0 9;sand 0 9;sand 0 9;whale 0 1 1 " + three[i].charAt(0) + " 1 1 "
+                + three[i].charAt(2) + " 1 1 " + three[i].charAt(4) + ";", "open() = " + due[i]);
+        }
         Script.run(C, "31: by WORK that is left", "text sand 0 9;sand 0 9;whale 0 1 1 3;whale 1 1 3 8;", "open() = 0", "go(10, NONE) = 0",
             "open() = 10", "go(0, NONE) = 1", "open() = 10");
         Script.run(C, "31: in HOUR", "text sand 0 2;sand 0 9;tide 3 0;whale 0 1 1 8 1 3 1;", "open() = 1", "go(NONE, NONE) = 0", "open() = 0");

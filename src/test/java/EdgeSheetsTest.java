@@ -39,6 +39,9 @@ public final class EdgeSheetsTest {
             "back(2) = BAD", "back(MAX) = BAD", "keep(1) = 0", "back(0) = STATE", "back(1) = 0", "keep(0) = 0", "back(0) = 0", "count(1) = 2");
         Script.run(C, "34: HOUR", SHORE, "keep(0) = 0", "go(NONE, NONE) = 0", "keep(1) = 0", "go(NONE, NONE) = 0", "back(1) = 1", "rule(6) = 1",
             "back(0) = 0", "rule(6) = 0", "back(1) = 1", "beast(0, 2) = 0");
+        Script.run(C, "34: as often as may be", SHORE, "keep(0) = 0", "go(1, NONE) = 6", "back(0) = 0", "go(0, 10) = 8", "mark(0, 9) = 3",
+            "law(3) = 0", "own(3, 3) = 2", "lump(0, 1) = 4", "back(0) = 0", "has(0) = 0", "has(1) = 0", "part(0, 1) = 2", "part(10, 1) = 1",
+            "part(1, 1) = 1", "place(0, 1) = 3", "place(3, 0) = 2", "part(0, 2) = 4", "rule(3) = 0");
         Script.run(C, "34: a text takes IMAGES, one that is refused does not", SHORE, "keep(0) = 0", "tape !", "text() = -10", "back(0) = 0",
             "text() = 0", "back(0) = STATE", "count(1) = 0", "keep(0) = 0");
     }

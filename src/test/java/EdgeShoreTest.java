@@ -87,6 +87,10 @@ public final class EdgeShoreTest {
             "part(-10, 0) = BAD", "part(NONE, 0) = BAD", "part(MIN, 0) = BAD", "part(MAX, 0) = BAD");
         Script.run(C, "10: fewer than there were", "text sand 0 9;sand 0 9;sand 0 9;whale 0 4 1 1 5 1 1 6 1 1;", "part(2, 0) = 6",
             "text sand 0 9;sand 0 9;whale 1 7 2 3;", "part(0, 0) = 7", "part(1, 0) = BAD", "part(2, 0) = BAD");
+        Script.run(C, "Terms 1: nothing of what there was is left", "text sand 0 9;sand 0 9;sand 0 9;sand 0 9;whale 0 9 1 8 9 1 8 9 1 8;whale 3 9 1 8;",
+            "text sand 0 9;rot 9;gangs 2;whale 0 1 3 1;", "open() = 0", "best(3, 0) = 1", "best(1, 10) = 0", "best(1, 11) = NONE", "share(0, 0) = 1",
+            "luck(0, 0) = 1", "luck(0, 1) = 8", "drift(0, 3, 0) = 1", "drift(0, 60, 0) = 1", "count(4) = 0", "part(1, 4) = BAD", "go(1, NONE) = BAD",
+            "go(10, NONE) = BAD", "strand(1, 0) = 0", "floats(1) = BAD");
     }
 
     private static void partWhat() {

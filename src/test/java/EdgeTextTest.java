@@ -26,6 +26,7 @@ public final class EdgeTextTest {
         secondTime();
         tooMany();
         allThatThereMayBe();
+        eachLineItsOwn();
         placesThatThereAreNot();
         beastsOnOnePlace();
         theFirstMet();
@@ -339,6 +340,29 @@ public final class EdgeTextTest {
             "part(2, 1) = 3", "part(2, 2) = 3", "part(12, 0) = 6", "part(12, 2) = 6", "part(10, 0) = 4", "part(11, 1) = 2");
     }
 
+    /** PLACES, LEVELS, BEASTS, LAW, ROT, GANGS behind a text. */
+    private static void tells(String text, int... due) {
+        String[] rows = {"text " + text};
+        for (int i = 0; i < due.length; i++) {
+            rows = Script.join(rows, "rule(" + i + ") = " + due[i]);
+        }
+        Script.run(C, "Terms 1: what is not told is as at first, " + text, rows);
+    }
+
+    private static void eachLineItsOwn() {
+        tells("", 0, 1, 0, 0, 4, 1);
+        tells("sand 3 9;", 1, 1, 0, 0, 4, 1);
+        tells("tide 9;", 0, 1, 0, 0, 4, 1);
+        tells("tide 9 9;", 0, 2, 0, 0, 4, 1);
+        tells("law 0;", 0, 1, 0, 0, 4, 1);
+        tells("law 3;", 0, 1, 0, 3, 4, 1);
+        tells("rot 1;", 0, 1, 0, 0, 1, 1);
+        tells("rot 9;", 0, 1, 0, 0, 9, 1);
+        tells("gangs 1;", 0, 1, 0, 0, 4, 1);
+        tells("gangs 2;", 0, 1, 0, 0, 4, 2);
+        tells("whale 0 9 3 8;sand 0 0;", 1, 1, 1, 0, 4, 1);
+    }
+
     private static void placesThatThereAreNot() {
         C.in("5: 6, a BEAST that lies on a PLACE that there is not (the length)");
         refused("whale 0 1 1 1;", 6, 14);
@@ -433,7 +457,7 @@ public final class EdgeTextTest {
     }
 
     private static void takenTellsAll() {
-        String[] texts = {"", "sand 3 2;", "tide 1 9;", "sand 0 0;sand 0 1;tide 0 1;law 1;rot 1;whale 0 3 3 3 2 2 2;"};
+        String[] texts = {"", "sand 3 2;", "tide 1 9;", "sand 0 9;sand 0 9;whale 1 1 1 1;", "sand 0 0;sand 0 1;tide 0 1;law 1;rot 1;whale 0 3 3 3 2 2 2;"};
         for (String text : texts) {
             Script.alike(C, "Terms 1: a text that is taken tells all, in place of what there was",
                 Script.join(BUSY, "end(0) = 6", "text " + text), new String[] {"sheet(0, 0, 3) = 1", "text " + text});

@@ -6,18 +6,21 @@ import java.util.Random;
 /** Long runs of calls by seeds, on the class and on the model: all answers alike. All promises, 1 to 39. */
 public final class FuzzTest {
     private static final int[] FAR = {Integer.MIN_VALUE, Integer.MAX_VALUE, -5, -4, -3, -2, -1, 1000, 999, 998, 41, 100, 1 << 16, 256};
+    private static final int MOST_CALLS = 512;
+    private static final int LOOK_CALLS = 7 * 6 + 4 * (3 + 4 * 6);
     private static final Check CHECK = new Check();
 
     private final Random random;
     private final WeighedWhales x = new WeighedWhales();
     private final Model m = new Model();
+    private int calls = 0;
 
     private FuzzTest(long seed) {
         random = new Random(seed);
     }
 
     public static void main(String[] args) {
-        int runs = args.length > 0 ? Integer.parseInt(args[0]) : 300;
+        int runs = args.length > 0 ? Integer.parseInt(args[0]) : 1500;
         int first = args.length > 1 ? Integer.parseInt(args[1]) : 1;
         for (int seed = first; seed < first + runs; seed++) {
             CHECK.in("seed " + seed);
@@ -26,64 +29,78 @@ public final class FuzzTest {
         CHECK.finish("FuzzTest");
     }
 
+    /** Behind an object's 512th call its answers are free: the last ones are for the look at all that there is. */
     private void run() {
-        int calls = feedAll(random.nextInt(10) == 0 ? "" : text());
-        due("text()", x.text(), m.text());
-        while (calls < 512) {
+        tellText(random.nextInt(10) == 0 ? "" : text());
+        while (calls < MOST_CALLS - LOOK_CALLS - 4) {
             if (random.nextInt(60) == 0) {
-                calls += feedAll(random.nextInt(3) == 0 ? broken(text()) : text());
-                due("text()", x.text(), m.text());
-                due("fault()", x.fault(), m.fault());
-                look();
+                tellText(random.nextInt(3) == 0 ? broken(text()) : text());
             }
             if (random.nextInt(500) == 0) {
-                calls += idle();
+                idle();
             }
-            call(random.nextInt(44));
-            calls++;
+            if (calls < MOST_CALLS - LOOK_CALLS - 4) {
+                call(random.nextInt(44));
+            }
         }
         look();
     }
 
+    private void tellText(String text) {
+        if (calls + text.length() + 2 <= MOST_CALLS - LOOK_CALLS) {
+            feedAll(text);
+            due("text()", x.text(), m.text());
+            due("fault()", x.fault(), m.fault());
+        }
+    }
+
     private void due(String call, long got, long want) {
+        calls++;
+        if (calls > MOST_CALLS) {
+            throw new IllegalStateException("an object is used for more than " + MOST_CALLS + " calls");
+        }
         CHECK.due(call, got, want);
     }
 
-    private int feedAll(String text) {
+    private void feedAll(String text) {
         for (int i = 0; i < text.length(); i++) {
             due("feed", x.feed(text.charAt(i)), m.feed(text.charAt(i)));
         }
-        return text.length();
     }
 
     /** Hours up to the last ones. */
-    private int idle() {
+    private void idle() {
+        int reads = Math.min(random.nextInt(52), MOST_CALLS - LOOK_CALLS - calls - 21);
+        if (reads < 1) {
+            return;
+        }
         due("sheet", x.sheet(2, 1, 40), m.sheet(2, 1, 40));
         for (int i = 0; i < 20; i++) {
             due("lay", x.lay(2, i, Model.NONE), m.lay(2, i, Model.NONE));
         }
-        int reads = random.nextInt(52);
         for (int i = 0; i < reads; i++) {
             due("read", x.read(2, 1, 0, 20), m.read(2, 1, 0, 20));
         }
-        return 21 + reads;
     }
 
     /** Everything that can be looked at. */
     private void look() {
-        for (int i = -1; i <= 8; i++) {
+        for (int i = 0; i < 7; i++) {
             due("rule", x.rule(i), m.rule(i));
-            due("has", x.has(i), m.has(i));
             due("count", x.count(i), m.count(i));
             due("level", x.level(i), m.level(i));
-            for (int w = -1; w <= 6; w++) {
-                due("place", x.place(i, w), m.place(i, w));
-                due("beast", x.beast(i, w), m.beast(i, w));
-            }
+            due("has", x.has(i - 1), m.has(i - 1));
+            due("place", x.place(i, 0), m.place(i, 0));
+            due("place", x.place(i, 1), m.place(i, 1));
         }
-        for (int n = -1; n <= 33; n++) {
-            for (int w = -1; w <= 6; w++) {
-                due("part", x.part(n, w), m.part(n, w));
+        for (int b = 0; b < 4; b++) {
+            for (int w = 0; w < 3; w++) {
+                due("beast", x.beast(b, w), m.beast(b, w));
+            }
+            for (int p = 0; p < 4; p++) {
+                for (int w = 0; w < 6; w++) {
+                    due("part", x.part(10 * b + p, w), m.part(10 * b + p, w));
+                }
             }
         }
     }

@@ -93,6 +93,7 @@ public final class HoursTest {
         WeighedWhales x = Check.shore(TEXT);
         int[] due = {0, 2, 11, 0};
         for (int h = 0; h < 1000; h++) {
+            x = h % 300 == 0 ? Check.shore(TEXT) : x;
             C.due("wet(" + h + ")", x.wet(h), due[h % 4]);
         }
         x.mark(3, 0);

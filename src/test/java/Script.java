@@ -249,6 +249,10 @@ final class Script {
         for (int o = 0; o < 4; o++) {
             rows.add(row("has(" + o + ")"));
         }
+        for (String asked : new String[] {"open()", "laws()", "floats(0)", "floats(1)", "best(2, 0)", "best(2, 10)", "best(2, 13)",
+            "drift(5, 9, 0)", "drift(3, 9, 1)", "luck(0, 0)", "luck(1, 1)", "strand(1, 0)", "share(0, 2)", "share(1, 3)"}) {
+            rows.add(row(asked));
+        }
         rows.add(row("fault()"));
         rows.add(row("torn()"));
         return rows;

@@ -55,6 +55,7 @@ public final class ShoreTest {
         WeighedWhales x = Check.shore(TEXT);
         int[] due = {1, 3, 5, 2};
         for (int h = 0; h <= 999; h++) {
+            x = h % 300 == 0 ? Check.shore(TEXT) : x;
             C.due("level(" + h + ")", x.level(h), due[h % 4]);
         }
         C.due("level(-1)", x.level(-1), Check.BAD);
