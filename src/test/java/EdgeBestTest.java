@@ -130,6 +130,10 @@ public final class EdgeBestTest {
         String[] late = Script.join(new String[] {"text sand 0 9;rot 9;whale 0 9 2 0;"}, Script.idle(79));
         Script.run(C, "21: the last HOUR in which it is worth anything", Script.join(late, "best(1, 0) = 0", "best(2, 0) = 1", "best(3, 0) = 1",
             "go(NONE, NONE) = 0", "best(2, 0) = 0", "best(6, 0) = 0", "best(6, 10) = 0", "best(6, 12) = 0", "best(6, 14) = NONE"));
+        String[] last = Script.join(Script.join(new String[] {"text sand 0 9;tide 0 0 0 0 0 6;whale 0 5 3 0;"}, Script.idle(999)),
+            "mark(0, 5) = 9", "go(0, NONE) = FULL", "best(6, 0) = 0");
+        Script.run(C, "21: n HOURS, when HOUR is the last that go() comes to", Script.join(last,
+            row(6, "0", "NONE", "0", "NONE", "NONE", "NONE", "NONE", "NONE", "NONE", "NONE", "NONE", "NONE")));
     }
 
     private static void askedAgain() {

@@ -147,6 +147,9 @@ public final class EdgeHoursTest {
             "floats(0) = NONE", "go(NONE, NONE) = 0", "mark(0, 5) = 9", "floats(0) = 6", "go(NONE, NONE) = 0", "floats(0) = 6");
         Script.run(C, "19: the last LEVEL of six", "text sand 0 5;tide 0 0 0 0 0 6;whale 0 1 3 0;", "floats(0) = 5", "go(0, NONE) = 0",
             "floats(0) = 5");
+        String[] last = Script.join(Script.join(new String[] {"text sand 0 9;tide 0 0 0 0 0 6;whale 0 5 3 0;"}, Script.idle(999)),
+            "rule(6) = 999", "floats(0) = NONE", "mark(0, 5) = 9");
+        Script.run(C, "19: from HOUR on, when HOUR is the last that go() comes to", Script.join(last, "beast(0, 2) = 0", "floats(0) = 1001"));
         Script.run(C, "19: with all PARTS CUT", "text sand 0 5;tide 0 0 6;whale 0 1 1 0;", "go(0, NONE) = 1", "floats(0) = 2",
             "go(NONE, NONE) = 0", "floats(0) = STATE");
     }

@@ -200,5 +200,9 @@ public final class EdgeLumpsTest {
         Script.run(C, "32: BEASTS that are LOST then", "text sand 0 9;sand 0 1;sand 0 1;tide 0 0 2;whale 0 5 1 0;whale 1 3 3 0;whale 2 3 3 0;",
             "drift(0, 1, 1) = 0", "drift(0, 2, 1) = 2", "drift(0, 60, 1) = 2", "count(5) = 0", "go(NONE, NONE) = 0", "drift(0, 1, 1) = 2",
             "go(NONE, NONE) = 0", "drift(0, 1, 1) = 2", "count(5) = 2");
+        String[] last = Script.join(Script.join(new String[] {"text sand 0 9;tide 0 0 0 0 0 6;whale 0 5 3 0;"}, Script.idle(999)),
+            "mark(0, 5) = 9");
+        Script.run(C, "32: n HOURS, when HOUR is the last that go() comes to", Script.join(last, "go(NONE, NONE) = FULL", "drift(0, 1, 1) = 0",
+            "drift(0, 2, 1) = 1", "drift(0, 60, 1) = 1", "drift(0, 60, 0) = 0", "rule(6) = 999", "count(5) = 0"));
     }
 }

@@ -158,7 +158,7 @@ public final class EdgeSheetsTest {
             "has(0) = 7", "part(0, 1) = 1", "read(0, 2, 2, 2) = 1", "torn() = 2", "has(0) = 10", "rule(6) = 4", "read(0, 2, 3, 1) = 0", "torn() = 2");
         Script.run(C, "37: no CELLS", TWO, "sheet(0, 0, 0) = 1", "read(0, 0, 0, 1) = 0", "torn() = 2", "read(0, 0, 0, 0) = 0", "torn() = 0");
         Script.run(C, "37: no HOURS, so nothing that the machine could refuse", TWO, "read(0, 0, 0, 1) = 0", "torn() = 1", "read(0, 0, 0, 0) = 0",
-            "torn() = 0");
+            "torn() = 0", "sheet(0, 1, 1) = 1", "read(0, 0, 0, 1) = 0", "torn() = 3", "read(0, 0, 0, 0) = 0", "torn() = 0");
     }
 
     private static void readWhatGoRefuses() {
