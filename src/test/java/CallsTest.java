@@ -1,3 +1,5 @@
+import java.util.function.IntSupplier;
+
 /**
  * The document's first lines: an object is used for at most 512 calls after it has been made. All of these answer as
  * due, whatever the calls ahead were: what one call leaves behind in rows that are used again does not reach another.
@@ -48,6 +50,14 @@ public final class CallsTest {
         due("text()", x.text(), text.chars().filter(c -> c == ';').count());
     }
 
+    /** The calls that are left. */
+    private void toTheLast(String call, IntSupplier ask, long due) {
+        while (!isUsedUp(1)) {
+            due(call, ask.getAsInt(), due);
+        }
+        C.due("calls", calls, MOST_CALLS);
+    }
+
     /** Each answer is that of an object which was asked nothing before. */
     private static void bestRows(String text) {
         C.in("best and worth, to the 512th call, of " + text);
@@ -63,10 +73,7 @@ public final class CallsTest {
             t.due("best(" + n + ", " + what + "), ROT " + rot, t.x.best(n, what), by(text, rot).best(n, what));
             t.due("worth(" + i % 3 + ", " + n + "), ROT " + rot, t.x.worth(i % 3, n), by(text, rot).worth(i % 3, n));
         }
-        while (!t.isUsedUp(1)) {
-            t.due("best(6, 0)", t.x.best(6, 0), by(text, rot).best(6, 0));
-        }
-        C.due("calls", t.calls, MOST_CALLS);
+        t.toTheLast("best(6, 0)", () -> t.x.best(6, 0), by(text, rot).best(6, 0));
     }
 
     private static WeighedWhales by(String text, int rot) {
@@ -93,9 +100,7 @@ public final class CallsTest {
             t.due("best(6, 12)", t.x.best(6, 12), Check.NONE);
             t.due("back(0)", t.x.back(0), 0);
         }
-        while (!t.isUsedUp(1)) {
-            t.due("best(6, 0)", t.x.best(6, 0), 18);
-        }
+        t.toTheLast("best(6, 0)", () -> t.x.best(6, 0), 18);
     }
 
     /** WORTH 9 and WORK 3: the third HOUR is HOUR 2, so ROT 3 wins all of it, ROT 2 does not. */
@@ -106,10 +111,7 @@ public final class CallsTest {
             t.due("salted(3)", t.x.salted(3), 3);
             t.due("salted(2)", t.x.salted(2), 1);
         }
-        while (!t.isUsedUp(1)) {
-            t.due("best(3, 0)", t.x.best(3, 0), 9);
-        }
-        C.due("calls", t.calls, MOST_CALLS);
+        t.toTheLast("salted(3)", () -> t.x.salted(3), 3);
     }
 
     private static void seeds() {
@@ -120,6 +122,7 @@ public final class CallsTest {
             t.due("drift(" + seed + ", 9, 0)", t.x.drift(seed, 9, 0), Check.shore(ONE_GANG).drift(seed, 9, 0));
             t.due("drift(" + seed + ", 9, 1)", t.x.drift(seed, 9, 1), Check.shore(ONE_GANG).drift(seed, 9, 1));
         }
+        t.toTheLast("drift(3, 9, 0)", () -> t.x.drift(3, 9, 0), Check.shore(ONE_GANG).drift(3, 9, 0));
     }
 
     private static void texts() {
@@ -138,6 +141,7 @@ public final class CallsTest {
             t.due("text()", t.x.text(), 0);
             t.due("fault()", t.x.fault(), 0);
         }
+        t.toTheLast("text()", t.x::text, 0);
     }
 
     private static void told() {
@@ -153,6 +157,7 @@ public final class CallsTest {
             t.due("forget(1)", t.x.forget(1), 2);
             t.due("forget(0)", t.x.forget(0), 1);
         }
+        t.toTheLast("laws()", t.x::laws, 15);
     }
 
     private static void imagesAndHours() {
@@ -171,6 +176,7 @@ public final class CallsTest {
             t.due("has(3)", t.x.has(3), 9);
             t.due("back(1)", t.x.back(1), 1);
         }
+        t.toTheLast("back(1)", () -> t.x.back(1), 1);
     }
 
     private static void sheets() {
@@ -187,8 +193,6 @@ public final class CallsTest {
             t.due("read", t.x.read(k, (lane + 1) % 3, 0, 1), 0);
             t.due("torn()", t.x.torn(), 3);
         }
-        while (!t.isUsedUp(1)) {
-            t.due("rule(0)", t.x.rule(0), 1);
-        }
+        t.toTheLast("torn()", t.x::torn, 3);
     }
 }
